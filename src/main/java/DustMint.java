@@ -33,7 +33,7 @@ public final class DustMint {
     private final Hill keptHill = new Hill();
     private final Hill trial = new Hill();
     private final Sieving sieving = new Sieving(hill, trial, text);
-    private final Swapping swapping = new Swapping(hill, trial, text);
+    private final Swap swap = new Swap();
     private final int[] without = new int[YARDS];
     private final int[] worths = new int[BEGGARS];
     private boolean isKept = false;
@@ -66,11 +66,11 @@ public final class DustMint {
         if (!isWithin(limp, 0, 9) || !isWithin(sneeze, 0, 9)) {
             return false;
         }
-        hill.told |= 1 << p;
-        hill.places[p] = yard;
-        hill.bowl[p] = bowl;
-        hill.limps[p] = limp;
-        hill.sneezes[p] = sneeze;
+        hill.porters.told |= 1 << p;
+        hill.porters.places[p] = yard;
+        hill.porters.bowl[p] = bowl;
+        hill.porters.limps[p] = limp;
+        hill.porters.sneezes[p] = sneeze;
         return true;
     }
 
@@ -136,14 +136,14 @@ public final class DustMint {
     }
 
     public int porterIs(int p, int what) {
-        if (!hill.isTold(p)) {
+        if (!isPorter(p) || !hill.porters.isTold(p)) {
             return NONE;
         }
         switch (what) {
-            case 0: return hill.places[p];
-            case 1: return hill.bowl[p];
-            case 2: return hill.limps[p];
-            case 3: return hill.sneezes[p];
+            case 0: return hill.porters.places[p];
+            case 1: return hill.porters.bowl[p];
+            case 2: return hill.porters.limps[p];
+            case 3: return hill.porters.sneezes[p];
             case 4: return hill.loss(text, p, TOLD_DRAW);
             default: return NONE;
         }
@@ -162,10 +162,10 @@ public final class DustMint {
             return isBeggar(what - 30) ? trial.purses[what - 30] : NONE;
         }
         if (what >= 20) {
-            return isPorter(what - 20) ? trial.places[what - 20] : NONE;
+            return isPorter(what - 20) ? trial.porters.places[what - 20] : NONE;
         }
         if (what >= 10) {
-            return isPorter(what - 10) ? trial.bowl[what - 10] : NONE;
+            return isPorter(what - 10) ? trial.porters.bowl[what - 10] : NONE;
         }
         switch (what) {
             case 0: return trial.gold;
@@ -183,10 +183,10 @@ public final class DustMint {
             return isBeggar(what - 30);
         }
         if (what >= 20) {
-            return hill.isTold(what - 20);
+            return hill.porters.isTold(what - 20);
         }
         if (what >= 10) {
-            return hill.isTold(what - 10);
+            return hill.porters.isTold(what - 10);
         }
         return isWithin(what, 0, 3);
     }
@@ -201,7 +201,14 @@ public final class DustMint {
         if (!isWithin(what, NONE, HOW_MANY)) {
             return NOT_THERE;
         }
-        sieving.search(beggar, n, most, price);
+        sieving.begin(beggar, n, price);
+        sieving.weighOnes();
+        if (most >= 2) {
+            sieving.weighPairs();
+        }
+        if (most >= 3) {
+            sieving.weighTriples();
+        }
         if (what == NONE) {
             return sieving.bestGain;
         }
@@ -222,17 +229,38 @@ public final class DustMint {
         if (ofOne && (!isPorter(what) || (porters >> what & 1) == 0)) {
             return NONE;
         }
-        if (!hill.allClimb(porters)) {
+        if (!hill.porters.allClimb(porters)) {
             return NOT_THERE;
         }
-        swapping.search(porters, n);
+        int least = searchSwap(porters, n);
         if (ofOne) {
-            return swapping.whoseFor(what);
+            return swap.whoseFor(what);
         }
         if (what == SWAP_THEM) {
-            swapping.swapBest();
+            trial.takeMoving(hill);
+            swap.handOutBest(trial.porters, hill.porters);
         }
-        return swapping.least;
+        return least;
+    }
+
+    /** Lesser rows are tried first, so that only what truly loses less replaces the best. */
+    private int searchSwap(int porters, int n) {
+        int least = Integer.MAX_VALUE;
+        boolean goesOn = true;
+        swap.begin(porters);
+        trial.takeAll(hill);
+        trial.needsDust = text.lossSeesDust;
+        for (int i = 0; i < Swap.MOST_ROWS && goesOn; i++) {
+            trial.takeMoving(hill);
+            swap.handOut(hill.porters, trial.porters);
+            int lost = trial.passUnder(text, n, least);
+            if (lost < least) {
+                least = lost;
+                swap.holdBest();
+            }
+            goesOn = swap.goOn();
+        }
+        return least;
     }
 
     public int carpet(int n, int what) {
@@ -242,6 +270,7 @@ public final class DustMint {
         int best = NOT_THERE;
         int least = Integer.MAX_VALUE;
         trial.takeAll(hill);
+        trial.needsDust = text.lossSeesDust;
         for (int y = 0; y < YARDS; y++) {
             if (hill.carpets[y] == 0) {
                 trial.takeMoving(hill);
@@ -346,12 +375,13 @@ public final class DustMint {
         }
         // The bytes stay readable behind this: what was fed is overwritten only by later bytes.
         tape.size = 0;
-        if (!hill.climbs(p)) {
+        if (!hill.porters.climbs(p)) {
             return NO_PORTER;
         }
         int many = 0;
-        int first = NOT_THERE;
+        int first = 0;
         trial.takeAll(hill);
+        trial.needsDust = text.lossSeesDust;
         for (int i = 0; i < 100; i++) {
             if (wouldShake(p, n, i / 10, i % 10)) {
                 first = many == 0 ? i : first;
@@ -373,12 +403,12 @@ public final class DustMint {
             return false;
         }
         trial.takeMoving(hill);
-        trial.limps[p] = limp;
-        trial.sneezes[p] = sneeze;
+        trial.porters.limps[p] = limp;
+        trial.porters.sneezes[p] = sneeze;
         for (int h = 0; h < n; h++) {
-            int before = trial.ledTo(p);
+            int before = trial.sumLed(p, NONE);
             trial.passDrawn(text, 1);
-            if (trial.ledTo(p) - before != tape.byteAt(h)) {
+            if (trial.sumLed(p, NONE) - before != tape.byteAt(h)) {
                 return false;
             }
         }
@@ -407,6 +437,7 @@ public final class DustMint {
         int all = n == 1 ? 10 : n == 2 ? 100 : 1000;
         int hits = 0;
         trial.takeAll(hill);
+        trial.needsDust = text.lossSeesDust;
         for (int i = 0; i < all; i++) {
             trial.takeMoving(hill);
             int draws = i;
@@ -477,7 +508,7 @@ public final class DustMint {
             case 5: return hill.river;
             case 6: return hill.gone;
             case 7: return hill.sumDust();
-            case 8: return hill.told;
+            case 8: return hill.porters.told;
             default: return NONE;
         }
     }
@@ -555,12 +586,17 @@ public final class DustMint {
         static final int MOST_CLAUSES = 14;
         static final int STACK = 40;
         static final int MOST_AMOUNT = 99;
+        static final String LETTERS = "ydwcrtpgiznbq";
+        static final int ALL_LETTERS = 13;
+        static final int DUST = 1;
+        static final int PORTER = 6;
+        static final int BEGGAR = 11;
+        /** The kinds of steps, beside the signs that join two numbers. */
         static final int NUMBER = 0;
         static final int LETTER = 1;
         static final int OR = 2;
         static final int AND = 3;
         static final int NOT = 4;
-        static final String LETTERS = "ydwcrtpgiznbq";
 
         final int[] kinds = new int[MOST_TEXT];
         final int[] operands = new int[MOST_TEXT];
@@ -570,10 +606,11 @@ public final class DustMint {
         final int[] middles = new int[MOST_CLAUSES];
         final int[] ends = new int[MOST_CLAUSES];
         int clauses = 0;
+        /** Whether what porters lose may hang on dust. */
+        boolean lossSeesDust = false;
         /** What each of LETTERS stands for now. */
-        final int[] sees = new int[13];
+        final int[] sees = new int[ALL_LETTERS];
         private final int[] stack = new int[STACK];
-        private boolean isRefused = false;
 
         void take(Law other) {
             System.arraycopy(other.kinds, 0, kinds, 0, MOST_TEXT);
@@ -584,12 +621,19 @@ public final class DustMint {
             System.arraycopy(other.ends, 0, ends, 0, MOST_CLAUSES);
             steps = other.steps;
             clauses = other.clauses;
+            lossSeesDust = other.lossSeesDust;
+        }
+
+        void clear() {
+            steps = 0;
+            clauses = 0;
+            lossSeesDust = false;
         }
 
         /** Puts a step behind the others and tells its place. */
         int putStep(int kind, int operand) {
             if (steps < 0 || steps >= MOST_TEXT) {
-                return 0;
+                return NONE;
             }
             kinds[steps] = kind;
             operands[steps] = operand;
@@ -601,6 +645,13 @@ public final class DustMint {
         void leadToEnd(int step) {
             if (step >= 0 && step < MOST_TEXT) {
                 operands[step] = steps - 1;
+            }
+        }
+
+        /** Forgets porter and beggar, which only their own clauses see. */
+        void forgetWho() {
+            for (int i = PORTER; i < ALL_LETTERS; i++) {
+                sees[i] = 0;
             }
         }
 
@@ -616,8 +667,7 @@ public final class DustMint {
         int amount(int letter) {
             for (int c = 0; c < clauses && c < MOST_CLAUSES; c++) {
                 if (letters[c] == letter && reckon(middles[c], ends[c]) != 0) {
-                    int n = reckon(starts[c], middles[c]);
-                    return Math.max(0, Math.min(MOST_AMOUNT, n));
+                    return Math.max(0, Math.min(MOST_AMOUNT, reckon(starts[c], middles[c])));
                 }
             }
             return 0;
@@ -625,59 +675,50 @@ public final class DustMint {
 
         /** What the steps answer: an E its number, a C 1 or 0; 0 if it is refused. */
         private int reckon(int from, int to) {
-            isRefused = false;
             int top = 0;
-            for (int at = Math.max(0, from); at < to && at < MOST_TEXT; at++) {
+            for (int at = from; at >= 0 && at < to && at < MOST_TEXT; at++) {
                 int kind = kinds[at];
-                if (kind <= LETTER) {
-                    if (top >= STACK) {
+                int operand = operands[at];
+                if (kind == NUMBER || kind == LETTER) {
+                    if (top >= STACK || kind == LETTER && (operand < 0 || operand >= ALL_LETTERS)) {
                         return 0;
                     }
-                    stack[top] = kind == NUMBER ? operands[at] : seen(operands[at]);
+                    stack[top] = kind == NUMBER ? operand : sees[operand];
                     top++;
-                } else if (top < 1) {
+                    continue;
+                }
+                if (top < 1) {
                     return 0;
-                } else if (kind == NOT) {
-                    stack[top - 1] = 1 - stack[top - 1];
-                } else if (kind <= AND) {
-                    if (stack[top - 1] != 0 == (kind == OR)) {
-                        // Only ever onward, so that the loop ends.
-                        at = Math.max(at, operands[at]);
+                }
+                int last = stack[top - 1];
+                if (kind == NOT) {
+                    stack[top - 1] = 1 - last;
+                } else if (kind == OR || kind == AND) {
+                    boolean isSettled = last != 0 == (kind == OR);
+                    if (isSettled && operand > at) {
+                        at = operand;
                     } else {
                         top--;
                     }
-                } else if (top < 2) {
+                } else if (top < 2 || last == 0 && (kind == '/' || kind == '%')) {
                     return 0;
                 } else {
-                    top--;
-                    stack[top - 1] = join(kind, stack[top - 1], stack[top]);
-                    if (isRefused) {
-                        return 0;
+                    int n = stack[top - 2];
+                    switch (kind) {
+                        case '+': n += last; break;
+                        case '-': n -= last; break;
+                        case '*': n *= last; break;
+                        case '/': n /= last; break;
+                        case '%': n %= last; break;
+                        case '<': n = n < last ? 1 : 0; break;
+                        case '>': n = n > last ? 1 : 0; break;
+                        default: n = n == last ? 1 : 0; break;
                     }
+                    top--;
+                    stack[top - 1] = n;
                 }
             }
             return top == 1 ? stack[0] : 0;
-        }
-
-        private int seen(int letter) {
-            return letter >= 0 && letter < 13 ? sees[letter] : 0;
-        }
-
-        private int join(int sign, int a, int b) {
-            switch (sign) {
-                case '+': return a + b;
-                case '-': return a - b;
-                case '*': return a * b;
-                case '<': return a < b ? 1 : 0;
-                case '>': return a > b ? 1 : 0;
-                case '=': return a == b ? 1 : 0;
-                default: break;
-            }
-            if (b == 0) {
-                isRefused = true;
-                return 0;
-            }
-            return sign == '/' ? a / b : a % b;
         }
     }
 
@@ -706,8 +747,7 @@ public final class DustMint {
             size = n;
             at = 0;
             fault = 0;
-            found.steps = 0;
-            found.clauses = 0;
+            found.clear();
             boolean goesOn = true;
             // A clause has four bytes at least, so that the text's end is always met.
             for (int i = 0; i < MOST_TEXT && goesOn; i++) {
@@ -727,7 +767,7 @@ public final class DustMint {
         }
 
         private int next() {
-            return at < size ? tape.byteAt(at) : NONE;
+            return at >= 0 && at < size && at < MOST_TAPE ? tape.bytes[at] : NONE;
         }
 
         private boolean fail(int number) {
@@ -735,7 +775,7 @@ public final class DustMint {
             return false;
         }
 
-        private boolean pass(int sign) {
+        private boolean close(int sign) {
             if (next() != sign) {
                 return fail(MISPLACED);
             }
@@ -748,7 +788,11 @@ public final class DustMint {
             if (next() != sign) {
                 return fail(MISPLACED);
             }
-            return opened >= MOST_OPEN ? fail(SEVENTH_OPEN) : pass(sign);
+            if (opened >= MOST_OPEN) {
+                return fail(SEVENTH_OPEN);
+            }
+            at++;
+            return true;
         }
 
         private boolean readClause() {
@@ -767,12 +811,22 @@ public final class DustMint {
                 return false;
             }
             found.middles[c] = found.steps;
-            if (!open('(', 0) || !readParts(1) || !pass(')')) {
+            if (!open('(', 0) || !readParts(1) || !close(')')) {
                 return false;
             }
             found.ends[c] = found.steps;
             found.clauses = c + 1;
+            found.lossSeesDust |= letter == 'l' && seesDust(c);
             return true;
+        }
+
+        private boolean seesDust(int clause) {
+            for (int i = found.starts[clause]; i >= 0 && i < found.steps && i < MOST_TEXT; i++) {
+                if (found.kinds[i] == Law.LETTER && found.operands[i] == Law.DUST) {
+                    return true;
+                }
+            }
+            return false;
         }
 
         private boolean readParts(int opened) {
@@ -815,7 +869,7 @@ public final class DustMint {
                 return true;
             }
             if (sign == '(') {
-                return open('(', opened) && readParts(opened + 1) && pass(')');
+                return open('(', opened) && readParts(opened + 1) && close(')');
             }
             if (!readSum(opened)) {
                 return false;
@@ -865,7 +919,7 @@ public final class DustMint {
         private boolean readFactor(int opened) {
             int sign = next();
             if (sign == '[') {
-                return open('[', opened) && readSum(opened + 1) && pass(']');
+                return open('[', opened) && readSum(opened + 1) && close(']');
             }
             if (isDigit(sign)) {
                 return readNumber();
@@ -897,56 +951,23 @@ public final class DustMint {
         }
     }
 
-    /** All that is kept and undone but the tape; what an hour does. */
-    private static final class Hill {
-        final int[] dust = new int[YARDS];
-        final int[] wind = new int[YARDS];
-        final int[] carpets = new int[YARDS];
-        final int[] licences = new int[YARDS];
-        final int[] skills = new int[BEGGARS];
-        final int[] purses = new int[BEGGARS];
+    /** Who carries what where, and how. */
+    private static final class Porters {
         int told = 0;
         final int[] places = new int[PORTERS];
         final int[] bowl = new int[PORTERS];
         final int[] limps = new int[PORTERS];
         final int[] sneezes = new int[PORTERS];
-        final int[] rains = new int[RAINY_HOURS];
-        final int[] leds = new int[PORTERS * YARDS];
-        int clock = 0;
-        int x = 1;
-        int gold = 0;
-        int river = 0;
-        int gone = 0;
-        private final int[] moved = new int[YARDS];
 
-        Hill() {
-            Arrays.fill(licences, NOBODY);
-        }
-
-        void takeAll(Hill other) {
-            takeMoving(other);
+        void takeAll(Porters other) {
             told = other.told;
-            System.arraycopy(other.wind, 0, wind, 0, YARDS);
-            System.arraycopy(other.carpets, 0, carpets, 0, YARDS);
-            System.arraycopy(other.licences, 0, licences, 0, YARDS);
-            System.arraycopy(other.skills, 0, skills, 0, BEGGARS);
             System.arraycopy(other.limps, 0, limps, 0, PORTERS);
             System.arraycopy(other.sneezes, 0, sneezes, 0, PORTERS);
-            System.arraycopy(other.rains, 0, rains, 0, RAINY_HOURS);
-            System.arraycopy(other.leds, 0, leds, 0, PORTERS * YARDS);
         }
 
-        /** Takes what hours change, but for what was led: a trial of many hills needs no more for each. */
-        void takeMoving(Hill other) {
-            System.arraycopy(other.dust, 0, dust, 0, YARDS);
-            System.arraycopy(other.purses, 0, purses, 0, BEGGARS);
+        void takeMoving(Porters other) {
             System.arraycopy(other.places, 0, places, 0, PORTERS);
             System.arraycopy(other.bowl, 0, bowl, 0, PORTERS);
-            clock = other.clock;
-            x = other.x;
-            gold = other.gold;
-            river = other.river;
-            gone = other.gone;
         }
 
         boolean isTold(int p) {
@@ -955,7 +976,7 @@ public final class DustMint {
 
         /** Whether there is such a porter that has not arrived. */
         boolean climbs(int p) {
-            return isTold(p) && isYard(places[p]);
+            return isPorter(p) && (told >> p & 1) != 0 && places[p] < YARDS;
         }
 
         boolean allClimb(int porters) {
@@ -965,6 +986,69 @@ public final class DustMint {
                 }
             }
             return true;
+        }
+
+        int countAt(int y) {
+            int n = 0;
+            for (int p = 0; p < PORTERS; p++) {
+                if ((told >> p & 1) != 0 && places[p] == y) {
+                    n++;
+                }
+            }
+            return n;
+        }
+    }
+
+    /** All that is kept and undone but the tape; what an hour does. */
+    private static final class Hill {
+        final int[] dust = new int[YARDS];
+        final int[] wind = new int[YARDS];
+        final int[] carpets = new int[YARDS];
+        final int[] licences = new int[YARDS];
+        final int[] skills = new int[BEGGARS];
+        final int[] purses = new int[BEGGARS];
+        final Porters porters = new Porters();
+        final int[] rains = new int[RAINY_HOURS];
+        final int[] leds = new int[PORTERS * YARDS];
+        int clock = 0;
+        int x = 1;
+        int gold = 0;
+        int river = 0;
+        int gone = 0;
+        /** False on a trial that asks only for what porters do, if that does not hang on dust. */
+        boolean needsDust = true;
+        /** Who would sieve where nobody has a licence, and the yards (bits) where it would have got something. */
+        int prober = NOBODY;
+        int probed = 0;
+        private final int[] moved = new int[YARDS];
+
+        Hill() {
+            Arrays.fill(licences, NOBODY);
+        }
+
+        void takeAll(Hill other) {
+            takeMoving(other);
+            porters.takeAll(other.porters);
+            System.arraycopy(other.wind, 0, wind, 0, YARDS);
+            System.arraycopy(other.carpets, 0, carpets, 0, YARDS);
+            System.arraycopy(other.licences, 0, licences, 0, YARDS);
+            System.arraycopy(other.skills, 0, skills, 0, BEGGARS);
+            System.arraycopy(other.rains, 0, rains, 0, RAINY_HOURS);
+            System.arraycopy(other.leds, 0, leds, 0, PORTERS * YARDS);
+            needsDust = true;
+            prober = NOBODY;
+        }
+
+        /** Takes what hours change, but for what was led: a trial of many hills needs no more for each. */
+        void takeMoving(Hill other) {
+            porters.takeMoving(other.porters);
+            System.arraycopy(other.dust, 0, dust, 0, YARDS);
+            System.arraycopy(other.purses, 0, purses, 0, BEGGARS);
+            clock = other.clock;
+            x = other.x;
+            gold = other.gold;
+            river = other.river;
+            gone = other.gone;
         }
 
         int sumDust() {
@@ -978,43 +1062,46 @@ public final class DustMint {
         /** What was led to a porter (NONE: to all) at a yard (NONE: at all). */
         int sumLed(int p, int y) {
             int sum = 0;
-            for (int i = 0; i < PORTERS * YARDS; i++) {
-                if ((p == NONE || i / YARDS == p) && (y == NONE || i % YARDS == y)) {
-                    sum += leds[i];
+            for (int i = p == NONE ? 0 : p; i >= 0 && i < PORTERS && (p == NONE || i == p); i++) {
+                for (int k = y == NONE ? 0 : y; k >= 0 && k < YARDS && (y == NONE || k == y); k++) {
+                    sum += leds[i * YARDS + k];
                 }
-            }
-            return sum;
-        }
-
-        int ledTo(int p) {
-            int sum = 0;
-            for (int y = 0; y < YARDS && isPorter(p); y++) {
-                sum += leds[p * YARDS + y];
             }
             return sum;
         }
 
         /** Hours by draws: how much is lost in them. */
         int passDrawn(Law law, int n) {
-            return passUnder(law, n, Integer.MAX_VALUE);
+            int lost = 0;
+            for (int h = 0; h < n; h++) {
+                lost += pass(law, nextDraw());
+            }
+            return lost;
         }
 
         /** As passDrawn, but ends once so much is lost that it can't be the least any more. */
         int passUnder(Law law, int n, int limit) {
             int lost = 0;
             for (int h = 0; h < n && lost < limit; h++) {
-                x = 25173 * x + 13849 & 65535;
-                lost += pass(law, x % 10);
+                lost += pass(law, nextDraw());
             }
             return lost;
+        }
+
+        int nextDraw() {
+            x = 25173 * x + 13849 & 65535;
+            return x % 10;
         }
 
         int pass(Law law, int draw) {
             int lost = spill(law, draw);
             climb();
-            blow(law);
-            wash(law);
-            sieve(law);
+            if (needsDust) {
+                law.forgetWho();
+                blow(law);
+                wash(law);
+                sieve(law);
+            }
             clock++;
             return lost;
         }
@@ -1023,9 +1110,9 @@ public final class DustMint {
             int lost = 0;
             for (int p = 0; p < PORTERS; p++) {
                 int n = loss(law, p, draw);
-                int y = places[p];
+                int y = porters.places[p];
                 if (n > 0 && isYard(y)) {
-                    bowl[p] -= n;
+                    porters.bowl[p] -= n;
                     leds[p * YARDS + y] += n;
                     lost += n;
                     heap(y, n);
@@ -1034,63 +1121,52 @@ public final class DustMint {
             return lost;
         }
 
+        /** What a porter would lose now by such a draw. */
         int loss(Law law, int p, int draw) {
-            if (!climbs(p) || bowl[p] == 0) {
+            if (!isPorter(p) || !porters.climbs(p) || porters.bowl[p] == 0) {
                 return 0;
             }
-            int y = places[p];
+            int y = porters.places[p];
+            law.forgetWho();
             show(law, y);
-            law.sees[6] = p;
-            law.sees[7] = bowl[p];
-            law.sees[8] = limps[p];
-            law.sees[9] = draw == sneezes[p] ? 1 : 0;
-            law.sees[10] = crowd(y);
-            return Math.min(bowl[p], law.amount('l'));
+            law.sees[Law.PORTER] = p;
+            law.sees[Law.PORTER + 1] = porters.bowl[p];
+            law.sees[Law.PORTER + 2] = porters.limps[p];
+            law.sees[Law.PORTER + 3] = draw == porters.sneezes[p] ? 1 : 0;
+            law.sees[Law.PORTER + 4] = porters.countAt(y);
+            return Math.min(porters.bowl[p], law.amount('l'));
         }
 
-        private int crowd(int y) {
-            int n = 0;
-            for (int p = 0; p < PORTERS; p++) {
-                if (isTold(p) && places[p] == y) {
-                    n++;
-                }
-            }
-            return n;
-        }
-
-        /** Lets the law see a yard and the hour, and no porter or beggar yet. */
+        /** Lets the law see a yard and the hour. */
         private void show(Law law, int y) {
             if (!isYard(y)) {
                 return;
             }
             law.sees[0] = y;
-            law.sees[1] = dust[y];
+            law.sees[Law.DUST] = dust[y];
             law.sees[2] = wind[y];
             law.sees[3] = carpets[y];
             law.sees[4] = clock >= 0 && clock < RAINY_HOURS ? rains[clock] : 0;
             law.sees[5] = clock;
-            Arrays.fill(law.sees, 6, 13, 0);
         }
 
+        /** Puts grains on a yard, or on none; those that find no room are gone. */
         private void heap(int y, int n) {
-            if (!isYard(y)) {
-                gone += n;
-                return;
-            }
-            dust[y] += n;
-            if (dust[y] > MOST_DUST) {
-                gone += dust[y] - MOST_DUST;
-                dust[y] = MOST_DUST;
+            int room = isYard(y) ? MOST_DUST - dust[y] : 0;
+            int put = Math.min(n, room);
+            gone += n - put;
+            if (isYard(y)) {
+                dust[y] += put;
             }
         }
 
         private void climb() {
             for (int p = 0; p < PORTERS; p++) {
-                if (climbs(p) && clock % 10 >= limps[p]) {
-                    places[p]++;
-                    if (places[p] == YARDS) {
-                        gold += bowl[p];
-                        bowl[p] = 0;
+                if (porters.climbs(p) && clock % 10 >= porters.limps[p]) {
+                    porters.places[p]++;
+                    if (porters.places[p] == YARDS) {
+                        gold += porters.bowl[p];
+                        porters.bowl[p] = 0;
                     }
                 }
             }
@@ -1103,7 +1179,7 @@ public final class DustMint {
             for (int y = 0; y < YARDS; y++) {
                 moved[y] = wind[y] == 0 ? 0 : taken(law, 'm', y);
             }
-            // All leave ahead of any that comes: a full yard has room for what it gives away.
+            // All leave ahead of any that come: a full yard has room for as much as it gives away.
             for (int y = 0; y < YARDS; y++) {
                 dust[y] -= moved[y];
             }
@@ -1130,11 +1206,17 @@ public final class DustMint {
                 return;
             }
             for (int y = 0; y < YARDS; y++) {
-                int b = licences[y];
+                int b = licences[y] == NOBODY ? prober : licences[y];
                 if (isBeggar(b)) {
+                    law.sees[Law.BEGGAR] = b;
+                    law.sees[Law.BEGGAR + 1] = skills[b];
                     int n = taken(law, 's', y);
-                    dust[y] -= n;
-                    purses[b] += n;
+                    if (licences[y] == b) {
+                        dust[y] -= n;
+                        purses[b] += n;
+                    } else if (n > 0) {
+                        probed |= 1 << y;
+                    }
                 }
             }
         }
@@ -1145,25 +1227,28 @@ public final class DustMint {
                 return 0;
             }
             show(law, y);
-            if (letter == 's' && isBeggar(licences[y])) {
-                law.sees[11] = licences[y];
-                law.sees[12] = skills[licences[y]];
-            }
             return Math.min(dust[y], law.amount(letter));
         }
     }
 
-    /** Which yards without a licence a beggar best sieves. */
+    /**
+     * Which yards without a licence a beggar best sieves. Fewer yards are weighed first, and lesser rows, so that only
+     * what is truly more replaces the best. A yard where nothing would be got beside some others changes nothing, and
+     * a row with it is no better than the row without it: such rows are left out.
+     */
     private static final class Sieving {
-        final int[] best = new int[MOST_SIEVED];
         int bestSize = 0;
         int bestGain = 0;
+        private final int[] best = new int[MOST_SIEVED];
         private final int[] row = new int[MOST_SIEVED];
+        /** Yards (bits) where something would be got beside one yard, beside two. */
+        private final int[] besideOne = new int[YARDS];
+        private final int[] besideTwo = new int[YARDS * YARDS];
         private final Hill hill;
         private final Hill trial;
         private final Law law;
         private int beggar = 0;
-        private int n = 0;
+        private int hours = 0;
         private int price = 0;
 
         Sieving(Hill hill, Hill trial, Law law) {
@@ -1172,107 +1257,145 @@ public final class DustMint {
             this.law = law;
         }
 
-        /** Fewer yards are tried first, and lesser rows, so that only what is truly more replaces the best. */
-        void search(int who, int hours, int most, int cost) {
+        void begin(int who, int n, int cost) {
             beggar = who;
-            n = hours;
+            hours = n;
             price = cost;
             trial.takeAll(hill);
+            trial.prober = who;
             bestSize = 0;
             bestGain = Integer.MIN_VALUE;
-            for (int size = 0; size <= most && size <= MOST_SIEVED; size++) {
-                choose(0, 0, size);
-            }
         }
 
         int bestAt(int place) {
             return place >= 0 && place < bestSize && place < MOST_SIEVED ? best[place] : NOT_THERE;
         }
 
-        private void choose(int place, int from, int size) {
-            if (place >= size || place >= MOST_SIEVED) {
-                weigh(size);
-                return;
+        void weighOnes() {
+            int besideNone = weigh(0);
+            for (int a = 0; a < YARDS; a++) {
+                row[0] = a;
+                besideOne[a] = hasBit(besideNone, a) ? weigh(1) : besideNone;
             }
-            for (int y = Math.max(0, from); y < YARDS; y++) {
-                if (hill.licences[y] == NOBODY) {
-                    row[place] = y;
-                    trial.licences[y] = beggar;
-                    choose(place + 1, y + 1, size);
-                    trial.licences[y] = NOBODY;
+        }
+
+        void weighPairs() {
+            for (int a = 0; a < YARDS; a++) {
+                for (int b = a + 1; b < YARDS; b++) {
+                    row[0] = a;
+                    row[1] = b;
+                    int beside = besideOne[a];
+                    if (hasBit(beside, b)) {
+                        beside = hasBit(besideOne[b], a) ? weigh(2) : besideOne[b];
+                    }
+                    besideTwo[a * YARDS + b] = beside;
                 }
             }
         }
 
-        private void weigh(int size) {
-            if (!isBeggar(beggar)) {
-                return;
+        void weighTriples() {
+            // Nothing is weighed behind these, so that nobody needs to know what would be got beside them.
+            trial.prober = NOBODY;
+            for (int a = 0; a < YARDS; a++) {
+                for (int b = a + 1; b < YARDS; b++) {
+                    for (int c = b + 1; c < YARDS; c++) {
+                        row[0] = a;
+                        row[1] = b;
+                        row[2] = c;
+                        boolean allGet = hasBit(besideTwo[a * YARDS + b], c) && hasBit(besideTwo[a * YARDS + c], b)
+                            && hasBit(besideTwo[b * YARDS + c], a);
+                        if (allGet) {
+                            weigh(3);
+                        }
+                    }
+                }
             }
+        }
+
+        private static boolean hasBit(int bits, int i) {
+            return (bits >> i & 1) != 0;
+        }
+
+        /** Tries the row's first yards; answers where something would be got beside them. */
+        private int weigh(int size) {
             trial.takeMoving(hill);
-            trial.passDrawn(law, n);
-            int gain = trial.purses[beggar] - hill.purses[beggar] - size * price;
+            trial.probed = 0;
+            grant(size, beggar);
+            for (int h = 0; h < hours; h++) {
+                trial.pass(law, trial.nextDraw());
+            }
+            grant(size, NOBODY);
+            int gain = isBeggar(beggar) ? trial.purses[beggar] - hill.purses[beggar] - size * price : 0;
             if (gain > bestGain) {
                 bestGain = gain;
                 bestSize = size;
                 System.arraycopy(row, 0, best, 0, MOST_SIEVED);
             }
+            return trial.probed;
+        }
+
+        private void grant(int size, int who) {
+            for (int i = 0; i < size && i < MOST_SIEVED; i++) {
+                if (isYard(row[i])) {
+                    trial.licences[row[i]] = who;
+                }
+            }
         }
     }
 
-    /** Which porter best gets whose bowl. */
-    private static final class Swapping {
-        int least = 0;
+    /** Rows of whose bowl each of some porters gets, from the least row on. */
+    private static final class Swap {
+        static final int MOST_ROWS = 720;
         private final int[] who = new int[MOST_SWAPPED];
         private final int[] row = new int[MOST_SWAPPED];
         private final int[] best = new int[MOST_SWAPPED];
-        private final Hill hill;
-        private final Hill trial;
-        private final Law law;
         private int size = 0;
-        private int n = 0;
 
-        Swapping(Hill hill, Hill trial, Law law) {
-            this.hill = hill;
-            this.trial = trial;
-            this.law = law;
-        }
-
-        /** Lesser rows are tried first, so that only what truly loses less replaces the best. */
-        void search(int porters, int hours) {
-            n = hours;
+        void begin(int porters) {
             size = 0;
-            for (int p = 0; p < PORTERS; p++) {
-                if ((porters >> p & 1) != 0 && size >= 0 && size < MOST_SWAPPED) {
+            for (int p = 0; p < PORTERS && size < MOST_SWAPPED; p++) {
+                if ((porters >> p & 1) != 0) {
                     who[size] = p;
+                    row[size] = p;
                     size++;
                 }
             }
-            least = Integer.MAX_VALUE;
-            trial.takeAll(hill);
-            choose(0, 0);
         }
 
-        private void choose(int place, int used) {
-            if (place >= size || place >= MOST_SWAPPED) {
-                weigh();
-                return;
+        /** Makes the row the next greater one; false if it is the greatest. */
+        boolean goOn() {
+            int i = size - 2;
+            while (i >= 0 && row[i] > row[i + 1]) {
+                i--;
             }
-            for (int i = 0; i < size && i < MOST_SWAPPED; i++) {
-                if ((used >> i & 1) == 0) {
-                    row[place] = who[i];
-                    choose(place + 1, used | 1 << i);
-                }
+            if (i < 0) {
+                return false;
+            }
+            int k = size - 1;
+            while (k > i + 1 && row[k] < row[i]) {
+                k--;
+            }
+            exchange(i, k);
+            int low = i + 1;
+            int high = size - 1;
+            while (low < high) {
+                exchange(low, high);
+                low++;
+                high--;
+            }
+            return true;
+        }
+
+        private void exchange(int i, int k) {
+            if (i >= 0 && i < MOST_SWAPPED && k >= 0 && k < MOST_SWAPPED) {
+                int p = row[i];
+                row[i] = row[k];
+                row[k] = p;
             }
         }
 
-        private void weigh() {
-            trial.takeMoving(hill);
-            handOut(trial, hill, row);
-            int lost = trial.passUnder(law, n, least);
-            if (lost < least) {
-                least = lost;
-                System.arraycopy(row, 0, best, 0, MOST_SWAPPED);
-            }
+        void holdBest() {
+            System.arraycopy(row, 0, best, 0, MOST_SWAPPED);
         }
 
         int whoseFor(int p) {
@@ -1284,13 +1407,16 @@ public final class DustMint {
             return NONE;
         }
 
-        void swapBest() {
-            trial.takeMoving(hill);
-            handOut(hill, trial, best);
+        void handOut(Porters from, Porters to) {
+            handOutBy(row, from, to);
         }
 
-        private void handOut(Hill to, Hill from, int[] order) {
-            for (int i = 0; i < size && i < MOST_SWAPPED && i < order.length; i++) {
+        void handOutBest(Porters from, Porters to) {
+            handOutBy(best, from, to);
+        }
+
+        private void handOutBy(int[] order, Porters from, Porters to) {
+            for (int i = 0; i < size && i < MOST_SWAPPED; i++) {
                 if (isPorter(who[i]) && isPorter(order[i])) {
                     to.bowl[who[i]] = from.bowl[order[i]];
                 }

@@ -13,6 +13,38 @@ final class Texts {
         return random.nextInt(n) == 0;
     }
 
+    /** A law by which something happens: a clause or two for each letter, the last of which mostly holds. */
+    String tame() {
+        StringBuilder s = new StringBuilder();
+        for (char letter : "lmks".toCharArray()) {
+            if (oneIn(5)) continue;
+            if (oneIn(2)) s.append(letter).append(sum(1)).append('(').append(parts(1)).append(");");
+            s.append(letter).append(easySum()).append('(').append(oneIn(3) ? easyPiece() : "1=1").append(");");
+        }
+        if (s.length() == 0) return "l3(1=1)";
+        s.setLength(s.length() - 1);
+        return s.toString();
+    }
+
+    private String easySum() {
+        String letters = "ydwcrtpgiznbq";
+        char a = letters.charAt(random.nextInt(13));
+        char b = letters.charAt(random.nextInt(13));
+        switch (random.nextInt(6)) {
+            case 0: return "" + (1 + random.nextInt(20));
+            case 1: return a + "+" + random.nextInt(9);
+            case 2: return a + "/" + (1 + random.nextInt(9)) + "+" + b;
+            case 3: return 12 + random.nextInt(20) + "-" + a + "*" + random.nextInt(5) + "-c*4";
+            case 4: return "[d+" + b + "]%" + (2 + random.nextInt(9)) + "+" + random.nextInt(4);
+            default: return "g/10+i*2+z*" + random.nextInt(9) + "+n+q*2+b%3+d/20";
+        }
+    }
+
+    private String easyPiece() {
+        char a = "ydwcrtpgiznbq".charAt(random.nextInt(13));
+        return (oneIn(3) ? "!" : "") + a + "<>=".charAt(random.nextInt(3)) + random.nextInt(8);
+    }
+
     String law() {
         StringBuilder s = new StringBuilder();
         int n = 1 + random.nextInt(oneIn(6) ? 15 : 6);
