@@ -24,6 +24,8 @@ public final class DustMint {
     private static final int SWAP_THEM = 9;
     private static final int HOW_MANY = 3;
     private static final int TOLD_DRAW = 5;
+    /** Above all that can be lost or gained in any trial. */
+    private static final int BEYOND = 1000000000;
 
     private final Tape tape = new Tape();
     private final Tape keptTape = new Tape();
@@ -245,7 +247,7 @@ public final class DustMint {
 
     /** Lesser rows are tried first, so that only what truly loses less replaces the best. */
     private int searchSwap(int porters, int n) {
-        int least = Integer.MAX_VALUE;
+        int least = BEYOND;
         boolean goesOn = true;
         swap.begin(porters);
         trial.takeAll(hill);
@@ -268,7 +270,7 @@ public final class DustMint {
             return NONE;
         }
         int best = NOT_THERE;
-        int least = Integer.MAX_VALUE;
+        int least = BEYOND;
         trial.takeAll(hill);
         trial.needsDust = text.lossSeesDust;
         for (int y = 0; y < YARDS; y++) {
@@ -340,7 +342,7 @@ public final class DustMint {
         if (what == 0) {
             return first;
         }
-        int next = Integer.MIN_VALUE;
+        int next = -BEYOND;
         for (int b = 0; b < BEGGARS; b++) {
             if (b != first) {
                 next = Math.max(next, worths[b]);
@@ -1264,7 +1266,7 @@ public final class DustMint {
             trial.takeAll(hill);
             trial.prober = who;
             bestSize = 0;
-            bestGain = Integer.MIN_VALUE;
+            bestGain = -BEYOND;
         }
 
         int bestAt(int place) {

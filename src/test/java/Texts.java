@@ -55,6 +55,18 @@ final class Texts {
         return s.toString();
     }
 
+    /** Texts with many open brackets or many clauses. */
+    String deep() {
+        if (oneIn(3)) return "l1(1=1);".repeat(12 + random.nextInt(3)) + "kd(!d=1)";
+        StringBuilder s = new StringBuilder("s1(");
+        int n = 1 + random.nextInt(7);
+        for (int i = 0; i < n; i++) s.append("(!".charAt(random.nextInt(2)));
+        String middle = random.nextInt(3) > 0 ? "1=1" : "[" + sum(1) + "]<[[" + sum(0) + "]]";
+        s.append(middle);
+        for (int i = n + 2; i > 2; i--) if (s.charAt(i) == '(') s.append(oneIn(3) ? "&!(!1=[1]))" : ")");
+        return s.append(')').toString();
+    }
+
     private String parts(int depth) {
         String s = pieces(depth);
         while (oneIn(4)) s += "|" + pieces(depth);
