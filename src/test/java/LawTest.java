@@ -166,6 +166,9 @@ public final class LawTest {
         lost("l9(2=3)", 0);
         lost("l9(0-1<0)", 9);
         lost("l9(!2=3)", 9);
+        lost("l9(!1<2)", 0);
+        lost("l9(!2>1)", 0);
+        lost("l9(!!2>1)", 9);
         lost("l9(!!2=3)", 0);
         lost("l9(!(1=1|1=2))", 0);
         lost("l9(1=2|1=1)", 9);
@@ -194,6 +197,16 @@ public final class LawTest {
         lost("l5+z(1=1)", 5);
         lost("ln(1=1)", 1);
         lost("l5+b+q(1=1)", 5);
+        DustMint t = Due.mint("lt(n=1)");
+        t.porter(0, 0, 9999, 9, 0);
+        t.porter(1, 1, 9999, 9, 0);
+        t.hours(7);
+        Due.is("t", t.porterIs(0, 4), 7);
+        t.porter(1, 19, 9999, 0, 0);
+        t.porter(2, 19, 9999, 0, 0);
+        t.hours(1);
+        t.porter(3, 19, 9999, 0, 0);
+        Due.is("n: those that have arrived don't count", t.porterIs(3, 4), 8);
         DustMint x = Due.mint("l1+z*8+c*30+r*2(n=2);l77(1=1)");
         x.yard(3, 0, 0, true);
         x.rain(0, 9);
@@ -253,6 +266,9 @@ public final class LawTest {
         Due.is("another text", Due.law(x, "l6(1=1);l7(1=1)"), 2);
         Due.is("in place of the one before", x.porterIs(0, 4), 6);
         Due.is("clauses", x.count(1), 2);
+        Due.is("a shorter text", Due.law(x, "l6(1=2)"), 1);
+        Due.is("nothing of the longer one", x.porterIs(0, 4), 0);
+        Due.law(x, "l6(1=1)");
         Due.feed(x, 'l', '9', '(', '1', '=', '1', ')', 'x', 'x', 'x', 'x', 'x', 'x', 'x', 'x', 'x', 'x', 'x', 'x', 'x');
         for (int n : new int[] {0, -1, 21, 201, Integer.MAX_VALUE, Integer.MIN_VALUE}) Due.is("law " + n, x.law(n), -1);
         Due.is("the tape stays", x.count(2), 20);

@@ -60,6 +60,36 @@ final class SearchPromises {
         Due.is("one alone", x.sieved(0, 2, 1, 0, NONE), 6);
         Due.is("the other one beside it", x.sieved(0, 2, 2, 0, NONE), 9);
         Due.is("the other one", x.sieved(0, 2, 3, 0, 1), 5);
+        sievedRows();
+    }
+
+    /** Each row of one, two or three yards may be the best one. */
+    private static void sievedRows() {
+        DustMint x = Due.mint("s99(1=1)");
+        for (int a = 0; a < 20; a++) {
+            for (int b = a; b < 20; b++) {
+                for (int c = b; c < 20; c += a == b || b == c ? 1 : 1 + (a + b) % 3) {
+                    if (a == b && b != c) continue;
+                    x = Due.mint("s99(1=1)");
+                    x.yard(a, 90, 0, false);
+                    x.yard(b, 90, 0, false);
+                    x.yard(c, 90, 0, false);
+                    int size = a == b ? 1 : b == c ? 2 : 3;
+                    String row = "sieved " + a + " " + b + " " + c;
+                    Due.is(row, x.sieved(5, 1, 3, 80, NONE), 10 * size);
+                    Due.is(row, x.sieved(5, 1, 3, 80, 0), a);
+                    Due.is(row, x.sieved(5, 1, 3, 80, 1), size > 1 ? b : -2);
+                    Due.is(row, x.sieved(5, 1, 3, 80, 2), size > 2 ? c : -2);
+                }
+            }
+        }
+        // A purse that is not empty: only what it has more counts.
+        x = Due.mint("s99(1=1)");
+        x.yard(19, 70, 0, false);
+        x.licence(19, 5);
+        x.hour(0);
+        x.yard(18, 50, 0, false);
+        Due.is("only what is more", x.sieved(5, 2, 1, 20, NONE), 30);
     }
 
     private static void bowls() {
@@ -81,9 +111,10 @@ final class SearchPromises {
         Due.is("of two only, whose", x.bowls(1 << 1 | 1 << 4, 1, 1), 4);
         for (int what : new int[] {0, 2, 8, 10, -2, 33, LEAST, MOST}) Due.is("what " + what, x.bowls(bits, 1, what), NONE);
         for (int n : new int[] {0, 21, LEAST, MOST}) Due.is("n " + n, x.bowls(bits, n, NONE), NONE);
-        for (int p : new int[] {0, 1, 127, 511, 512, 515, -1, LEAST, LEAST | 3, MOST}) Due.is("porters " + p, x.bowls(p, 1, NONE), NONE);
+        for (int p : new int[] {0, 1, 127, 511, 512, 513, 514, 515, -1, LEAST, LEAST | 3, MOST}) Due.is("porters " + p, x.bowls(p, 1, NONE), NONE);
         Due.is("not told", x.bowls(3, 1, NONE), -2);
         Due.is("not told, of one", x.bowls(3, 1, 1), -2);
+        Due.is("not told, of one that is none of them", x.bowls(3, 1, 5), NONE);
         Due.is("not told, to be done", x.bowls(3, 1, 9), -2);
         Due.is("nothing is done", x.porterIs(1, 1), 100);
         Due.is("done", x.bowls(bits, 1, 9), 7);
@@ -106,6 +137,23 @@ final class SearchPromises {
         x.porter(1, 12, 90, 9, 0);
         x.porter(2, 8, 999, 9, 0);
         Due.is("of all", x.bowls(3, 1, NONE), 5 + 99);
+        bowlRows(new int[6], 0, 0);
+    }
+
+    /** Each row of six bowls may be the best one: a porter loses nothing of a bowl whose last digit is its number. */
+    private static void bowlRows(int[] row, int size, int used) {
+        for (int p = 0; p < 6; p++) {
+            if ((used >> p & 1) != 0) continue;
+            row[size] = p;
+            if (size < 5) {
+                bowlRows(row, size + 1, used | 1 << p);
+                continue;
+            }
+            DustMint x = Due.mint("l0(g%10=p);l1(1=1)");
+            for (int i = 0; i < 6; i++) x.porter(i, i, 50 + row[i], 0, 0);
+            Due.is("nothing is lost", x.bowls(63, 1, 9), 0);
+            for (int i = 0; i < 6; i++) Due.is("bowl of " + i, x.porterIs(i, 1), 50 + i);
+        }
     }
 
     private static void carpet() {
@@ -211,6 +259,9 @@ final class SearchPromises {
         Due.is("for what it is worth to 1", x.sold(7, 2, 1), 16);
         x.skill(1, 0);
         Due.is("for what it is worth to 4", x.sold(7, 2, 1), 10);
+        Due.is("in one hour", x.sold(7, 1, 1), 5);
+        x.skill(0, 6);
+        Due.is("for what it is worth to 0", x.sold(7, 2, 1), 12);
         x.licence(7, 3);
         Due.is("as if nobody had it", x.sold(7, 2, 0), 3);
         Due.is("nothing worth: to 0", x.sold(8, 2, 0), 0);
@@ -330,6 +381,12 @@ final class SearchPromises {
         x.porter(1, 19, 3, 0, 4);
         x.porter(2, 19, 4, 0, 5);
         Due.is("5 of 10 alike", x.odds(1, 5, 0) * 100 + x.odds(1, 5, 1), 405);
+        x.porter(0, 17, 20, 0, 3);
+        x.porter(1, 0, 0, 0, 0);
+        x.porter(2, 0, 0, 0, 0);
+        Due.is("three hours", x.odds(3, 20, 0), 729);
+        Due.is("three hours, below", x.odds(3, 20, 1), 1000);
+        Due.is("three hours, 15", x.odds(3, 15, 0) * 1000 + x.odds(3, 15, 1), 243250);
         // The law looks at dust that the wind brings: it must be moved on each way.
         x = Due.mint("l99(d>0);m9(z=0)");
         x.porter(0, 18, 50, 0, 0);
@@ -386,6 +443,8 @@ final class SearchPromises {
         Due.is("no law", x.law(40), -1000);
         Due.is("undone", x.undo(), true);
         same("as it was", x, before);
+        for (int y = 0; y < 5; y++) x.yard(y, y + 1, 0, false);
+        Due.is("the tape as it was", x.check(5), NONE);
         x.check(0);
         Due.law(x, "l2(1=1);m1(1=1)");
         Due.is("undone again", x.undo(), true);
@@ -435,6 +494,8 @@ final class SearchPromises {
         Due.is("five are", x.check(5), 1);
         x.feed(-65281, 0, 0, 0, 0);
         Due.is("all 32 bits", x.check(1), 0);
+        x.feed(16777216 + 255, 0, 0, 0, 0);
+        Due.is("the highest byte", x.check(1), 0);
     }
 
     private static void count() {
