@@ -5,13 +5,12 @@ import java.util.Random;
 
 /** Long runs of drawn calls, each answered by DustMint and by SlowMint, which must agree. Arguments: first run, runs. */
 public final class ModelTest {
-    private static final int RUNS = 60;
+    private static final int RUNS = 80;
     private static final int CALLS = 400;
     private static final int[] EDGES = {Integer.MIN_VALUE, -1001, -3, -2, -1, 0, 1, 9, 10, 20, 21, 40, 41, 100, 200, 201, 512,
         65535, 65536, 99999, 100000, Integer.MAX_VALUE};
     private final Random random;
     private final Twins twins = new Twins();
-    private final DustMint fast = twins.fast;
     private int sievings = 0;
     private int swappings = 0;
 
@@ -35,7 +34,7 @@ public final class ModelTest {
         names.sort(null);
         if (names.size() != 27) throw new IllegalStateException("the face has 27 methods");
         for (int i = 0; i < 30; i++) if (!setUp()) return fail(seed);
-        for (int i = 0; i < CALLS; i++) {
+        for (int i = 0; i < CALLS && twins.hasCalls(); i++) {
             int way = random.nextInt(24);
             boolean right = way == 0 ? lawful() : way < 5 ? setUp() : way == 5 ? shaken() : way == 6 ? checked()
                 : drawn(names.get(random.nextInt(names.size())));
@@ -95,9 +94,9 @@ public final class ModelTest {
         int n = 1 + to(7);
         byte[] lost = new byte[n];
         for (int h = 0; h < n; h++) {
-            int before = fast.led(p, -1);
+            int before = twins.fast().led(p, -1);
             if (!same("hours", 1)) return false;
-            lost[h] = (byte) (fast.led(p, -1) - before);
+            lost[h] = (byte) (twins.fast().led(p, -1) - before);
         }
         int what = to(2) - 1;
         return same("undo") && emptied() && feedBytes(lost) && same("shook", p, n, what);
@@ -107,7 +106,7 @@ public final class ModelTest {
         byte[] bytes = new byte[80];
         int n = to(20);
         for (int i = 0; i < 20; i++) {
-            int dust = fast.yardIs(i, 0) + (to(40) == 0 ? 1 : 0);
+            int dust = twins.fast().yardIs(i, 0) + (to(40) == 0 ? 1 : 0);
             for (int k = 0; k < 4; k++) bytes[4 * i + k] = (byte) (dust >> 24 - 8 * k);
         }
         return emptied() && feedBytes(bytes) && same("check", n);
@@ -145,7 +144,7 @@ public final class ModelTest {
             case "share": args = row(to(8), to(19), to(1)); break;
             case "odds":
                 if (to(3) > 0) return true;
-                args = row(1 + to(2), Math.max(0, fast.count(4) + to(to(1) == 0 ? 400 : 40) - 2), to(2));
+                args = row(1 + to(2), Math.max(0, twins.fast().count(4) + to(to(1) == 0 ? 400 : 40) - 2), to(2));
                 break;
             case "seed": args = row(to(65536)); break;
             case "check": args = row(to(21)); break;
@@ -159,12 +158,12 @@ public final class ModelTest {
     /** Mostly porters that are there, as many as may be asked for. */
     private int told() {
         int bits = to(511);
-        return to(4) == 0 ? bits : bits & fast.count(8);
+        return to(4) == 0 ? bits : bits & twins.fast().count(8);
     }
 
     private int aTold() {
         int p = to(10) - 1;
-        return to(1) == 0 || (fast.count(8) >> Math.max(p, 0) & 1) != 0 ? p : -1;
+        return to(1) == 0 || (twins.fast().count(8) >> Math.max(p, 0) & 1) != 0 ? p : -1;
     }
 
     private static Object[] row(Object... args) {

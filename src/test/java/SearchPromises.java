@@ -416,9 +416,9 @@ final class SearchPromises {
         Due.is("two on", x.count(3), 61087);
     }
 
-    private static void keep() {
+    /** A hill behind two hours, with something on its tape. */
+    private static DustMint behindHours() {
         DustMint x = Due.mint("l5(1=1);m1(1=1);k1(1=1);s1(1=1)");
-        Due.is("nothing kept", x.undo(), false);
         x.yard(0, 50, -1, true);
         x.yard(1, 50, 0, false);
         x.licence(1, 3);
@@ -428,7 +428,12 @@ final class SearchPromises {
         x.porter(1, 5, 50, 3, 4);
         x.hours(2);
         x.feed(1, 2, 3, 4, 5);
-        int[] before = all(x);
+        return x;
+    }
+
+    private static void keep() {
+        DustMint x = behindHours();
+        Due.is("nothing kept", x.undo(), false);
         Due.is("the hour", x.keep(), 2);
         x.hours(5);
         x.yard(0, 0, 3, false);
@@ -442,7 +447,7 @@ final class SearchPromises {
         x.feed(9, 9, 9, 9, 9);
         Due.is("no law", x.law(40), -1000);
         Due.is("undone", x.undo(), true);
-        same("as it was", x, before);
+        Rig.same("as it was", Rig.seen(x), Rig.seen(behindHours()));
         for (int y = 0; y < 5; y++) x.yard(y, y + 1, 0, false);
         Due.is("the tape as it was", x.check(5), NONE);
         x.check(0);
@@ -455,22 +460,6 @@ final class SearchPromises {
         x.hours(1);
         x.undo();
         Due.is("as it was kept last", x.count(0), 5);
-    }
-
-    private static int[] all(DustMint x) {
-        int[] row = new int[500];
-        int at = 0;
-        for (int what = 0; what < 26; what++) row[at++] = what == 1 ? 0 : x.count(what);
-        for (int h = 100; h < 200; h++) row[at++] = x.count(h);
-        for (int y = 0; y < 20; y++) for (int what = 0; what < 4; what++) row[at++] = x.yardIs(y, what);
-        for (int p = 0; p < 9; p++) for (int what = 0; what < 4; what++) row[at++] = x.porterIs(p, what);
-        for (int p = 0; p < 9; p++) for (int y = 0; y < 20; y++) row[at++] = x.led(p, y);
-        return row;
-    }
-
-    private static void same(String what, DustMint x, int[] due) {
-        int[] got = all(x);
-        for (int i = 0; i < due.length; i++) Due.is(what + ", " + i, got[i], due[i]);
     }
 
     private static void check() {

@@ -61,9 +61,9 @@ public final class SearchTest {
         int most = 1 + to(2);
         int price = to(1) * to(40);
         for (int what = -1; what <= 4; what++) right &= most == 3 && what > 0 && what != 3 || twins.same("sieved", beggar, n, most, price, what);
-        int told = twins.fast.count(8);
+        int told = twins.fast().count(8);
         for (int p = 0; p < 9; p++) {
-            boolean leave = twins.fast.porterIs(p, 0) == 20 || Integer.bitCount(told) > 5 || to(3) == 0;
+            boolean leave = twins.fast().porterIs(p, 0) == 20 || Integer.bitCount(told) > 5 || to(3) == 0;
             if (leave && Integer.bitCount(told) > 2) told &= ~(1 << p);
         }
         n = 1 + to(6);
@@ -77,7 +77,7 @@ public final class SearchTest {
             right &= twins.same("sold", y, n, 0) && twins.same("sold", y, n, 1) && twins.same("worth", y, to(5), n);
         }
         n = 1 + to(1) * to(2);
-        for (int i = 0; i < 4; i++) right &= twins.same("odds", n, twins.fast.count(4) + to(500), to(1));
+        for (int i = 0; i < 4; i++) right &= twins.same("odds", n, twins.fast().count(4) + to(500), to(1));
         return right && shake() && twins.same("hours", 40) && twins.same("undo") && shares();
     }
 
@@ -89,9 +89,9 @@ public final class SearchTest {
             byte[] lost = new byte[n];
             right &= twins.same("keep");
             for (int h = 0; h < n; h++) {
-                int before = twins.fast.led(p, -1);
+                int before = twins.fast().led(p, -1);
                 right &= twins.same("hours", 1);
-                lost[h] = (byte) (twins.fast.led(p, -1) - before);
+                lost[h] = (byte) (twins.fast().led(p, -1) - before);
             }
             if (to(3) == 0) lost[to(n - 1)] += to(9);
             right &= twins.same("undo");
