@@ -230,6 +230,9 @@ public final class AskEdgesTest {
                 Due.is("all sneezes, " + n, x.odds(n, 10, 0), 1);
                 Due.is("all sneezes below, " + n, x.odds(n, 10, 1), all);
                 Due.is("all but none, " + n, x.odds(n, 11, 0), 0);
+                // One yard further down it has not arrived behind n hours.
+                x.porter(0, 19 - n, 10, 0, sneeze);
+                Due.is("not behind " + n, x.odds(n, 1, 0) * 10 + x.odds(n, 1, 1), 1);
             }
         }
         // In the first hour it sneezes at 0, in the second it loses by dust that only this first one left.
@@ -240,6 +243,16 @@ public final class AskEdgesTest {
         // Of those who sneezed first, one of ten loses 5 + 2, the others 5 + 3.
         Due.is("both", x.odds(2, 3, 0) * 1000 + x.odds(2, 3, 1), 91100);
         Due.is("all", x.odds(2, 2, 0) * 1000 + x.odds(2, 2, 1), 1001);
+        // What is lost in the second hour hangs on dust that the wind brings in the first one, and a beggar may sieve.
+        x = Due.mint("l4(d>0);m9(1=1);s99(q>0)");
+        x.yard(18, 9, 1, false);
+        x.porter(0, 19, 10, 1, 0);
+        Due.is("by the wind's dust", x.odds(2, 6, 0) * 10 + x.odds(2, 6, 1), 11);
+        Due.is("by the wind's dust, not more", x.odds(2, 7, 0) * 10 + x.odds(2, 7, 1), 1);
+        x.licence(19, 4);
+        Due.is("it sieves nothing", x.odds(2, 7, 0), 0);
+        x.skill(4, 1);
+        Due.is("the dust is sieved", x.odds(2, 10, 0) * 10 + x.odds(2, 10, 1), 11);
     }
 
     /** count: "0 THE HOUR, .. 8 told PORTERS (bits); 10 + b the PURSE, 20 + b the SKILL .., 100 + h RAIN .. NONE for others." */

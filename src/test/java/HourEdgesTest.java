@@ -20,6 +20,7 @@ public final class HourEdgesTest {
         sieved();
         order();
         hourIsOneMore();
+        most();
         Due.end();
     }
 
@@ -66,12 +67,13 @@ public final class HourEdgesTest {
         DustMint x = new DustMint();
         long due = 65535;
         x.seed(65535);
-        for (int i = 0; i < 400; i++) {
+        // "An object is used for at most 512 calls": so many hours are the most there can be.
+        for (int i = 0; i < 509; i++) {
             for (int h = 0; h < 40; h++) due = (25173 * due + 13849) % 65536;
             x.hours(40);
         }
         Due.is("X far later", x.count(3), (int) due);
-        Due.is("THE HOUR far later", x.count(0), 16000);
+        Due.is("THE HOUR far later", x.count(0), 20360);
     }
 
     /** "it sneezes if the DRAW is its SNEEZE": by the draws that come, the one of the X behind the step. */
@@ -318,6 +320,23 @@ public final class HourEdgesTest {
         Due.is("1, 2, 4, 8", x.hour(0), 15);
         for (int p = 0; p < 4; p++) Due.is("by numbers: " + p, x.led(p, 19), 1 << p);
         Due.is("gold", x.count(4), 185);
+    }
+
+    /** As many grains as 512 calls can move: each hour 99 by all nine, by the wind, by rain and by a beggar. */
+    private static void most() {
+        DustMint x = Due.mint("l99(1=1);m99(1=1);k99(1=1);s99(1=1)");
+        for (int y = 0; y < 20; y++) x.yard(y, 99999, y < 10 ? -1 : 1, false);
+        for (int y = 0; y < 20; y++) x.licence(y, 5);
+        int all = 20 * 99999;
+        for (int i = 0; i < 40; i++) {
+            for (int p = 0; p < 9; p++) x.porter(p, 0, 9999, 9, 0);
+            all += 9 * 9999;
+            Due.is("lost in 9 hours", x.hours(9), 9 * 9 * 99);
+            all -= 9 * (9999 - 9 * 99);
+        }
+        int left = x.count(4) + x.count(5) + x.count(6) + x.count(7) + x.count(15);
+        Due.is("no grain is lost or made", left, all);
+        Due.is("led", x.led(NONE, 0) + x.led(NONE, 1), 40 * 9 * 9 * 99);
     }
 
     /** "(6) THE HOUR is one more." */

@@ -18,6 +18,7 @@ public final class LawEdgesTest {
         divisors();
         refusedClauses();
         asked();
+        compared();
         firstThatHolds();
         letters();
         Due.end();
@@ -327,6 +328,21 @@ public final class LawEdgesTest {
         lost("l1/0(1=2);l50(1=1)", 50);
     }
 
+    /** Each of < > = at one less, as much, one more, and each of them behind one ! and two. */
+    private static void compared() {
+        for (int a = 6; a <= 8; a++) {
+            for (char how : new char[] {'<', '>', '='}) {
+                boolean holds = how == '<' ? a < 7 : how == '>' ? a > 7 : a == 7;
+                lost("l50(" + a + how + "d)", holds ? 50 : 0);
+                lost("l50(!" + a + how + "d)", holds ? 0 : 50);
+                lost("l50(!!" + a + how + "d)", holds ? 50 : 0);
+                lost("l50(!(" + a + how + "d))", holds ? 0 : 50);
+                lost("l50(!(!" + a + how + "d&1=1))", holds ? 50 : 0);
+                lost("l50(0-" + a + how + "0-d)", (how == '=' ? holds : how == '<' ? a > 7 : a < 7) ? 50 : 0);
+            }
+        }
+    }
+
     /** "of the first one of a letter whose C holds the E": each of fourteen, and the last one alone. */
     private static void firstThatHolds() {
         StringBuilder text = new StringBuilder();
@@ -364,6 +380,15 @@ public final class LawEdgesTest {
         Due.is("m sees none of them, k neither (both yards)", x.count(5), 2);
         Due.is("s sees its beggar", x.count(15), 1);
         Due.is("one moved and washed, one washed, one sieved", x.yardIs(5, 0) * 10 + x.yardIs(6, 0), 70);
+        // Behind a sieve l sees no beggar still; who is not told is at no yard, not even at 0.
+        x = Due.mint("l1+b+q(n=1);l9(1=1);s1(1=1)");
+        x.yard(5, 10, 0, false);
+        x.licence(5, 5);
+        x.skill(5, 9);
+        x.porter(3, 0, 100, 9, 0);
+        Due.is("l ahead of a sieve", x.hour(0), 1);
+        Due.is("l behind a sieve", x.hour(0), 1);
+        Due.is("as it would be", x.porterIs(3, 4), 1);
         // t and r are the hour's own, before it is one more.
         x = Due.mint("lt(1=1);kr(1=1)");
         x.porter(0, 0, 999, 9, 0);

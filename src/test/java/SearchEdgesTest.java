@@ -16,6 +16,7 @@ public final class SearchEdgesTest {
         bowlsWhat();
         bowlsDone();
         bowlsLikeRows();
+        lostOfAll();
         carpetNumbers();
         carpetLikeOnes();
         gustNumbers();
@@ -247,6 +248,16 @@ public final class SearchEdgesTest {
         x = carriers("l1(p=2&g=30)", 10, 20, 30);
         due = new int[] {0, 2, 1};
         for (int p = 0; p < 3; p++) Due.is("the last not its own, " + p, x.bowls(7, 1, p), due[p]);
+        // None may have its own: 1 2 0 and 2 0 1 are alike.
+        x = carriers("l1(g=p*10+10)", 10, 20, 30);
+        due = new int[] {1, 2, 0};
+        for (int p = 0; p < 3; p++) Due.is("none its own, " + p, x.bowls(7, 1, p), due[p]);
+        // Only 2 0 1 fits: porter 0 gets the bowl of 2, not 2 that of 0.
+        x = carriers("l0(p=0&g=30|p=1&g=10|p=2&g=20);l1(1=1)", 10, 20, 30);
+        due = new int[] {2, 0, 1};
+        for (int p = 0; p < 3; p++) Due.is("one row fits, " + p, x.bowls(7, 1, p), due[p]);
+        Due.is("it is done", x.bowls(7, 1, 9), 0);
+        for (int p = 0; p < 3; p++) Due.is("bowl of " + p, x.porterIs(p, 1), 10 * due[p] + 10);
         // Only the greatest row of all fits.
         x = carriers("l0(g=60-p*10);l1(1=1)", 10, 20, 30, 40, 50, 60);
         for (int p = 0; p < 6; p++) Due.is("the greatest row, " + p, x.bowls(SIX, 1, p), 5 - p);
@@ -261,6 +272,32 @@ public final class SearchEdgesTest {
         Due.is("4 gets", x.bowls(bits, 1, 4), 6);
         Due.is("6 gets", x.bowls(bits, 1, 6), 4);
         Due.is("8 gets", x.bowls(bits, 1, 8), 8);
+    }
+
+    /** "least is lost (by l, of all PORTERS)": also of those whose bowls stay, and by dust that wind and beggars move. */
+    private static void lostOfAll() {
+        // Porter 2 loses by the dust of yard 0, which porter 0 leaves there; only 0 and 1 change.
+        DustMint x = Due.mint("lg/10(p<2);ld(1=1)");
+        x.porter(0, 0, 90, 9, 0);
+        x.porter(1, 1, 50, 9, 0);
+        x.porter(2, 0, 999, 9, 0);
+        Due.is("of all", x.bowls(3, 1, NONE), 5 + 9 + 5);
+        Due.is("the smaller one to 0", x.bowls(3, 1, 0), 1);
+        // In the second hour what the wind has brought to yard 3 costs a tenth more there.
+        x = Due.mint("lg/10(d>50);l0(1=1);m60(1=1)");
+        x.yard(2, 60, 1, false);
+        x.porter(4, 3, 500, 9, 0);
+        x.porter(5, 9, 100, 9, 0);
+        Due.is("not yet", x.bowls(48, 1, NONE), 0);
+        Due.is("its own", x.bowls(48, 1, 4), 4);
+        Due.is("then", x.bowls(48, 2, NONE), 10);
+        Due.is("the other one's", x.bowls(48, 2, 4), 5);
+        // A carpet at 2 keeps the dust there: then nothing is lost at 3.
+        x = Due.mint("l9(d>50);m60(c=0)");
+        x.yard(2, 60, 1, false);
+        x.porter(4, 3, 500, 9, 0);
+        Due.is("not yet", x.carpet(1, 0) * 100 + x.carpet(1, 1), 0);
+        Due.is("at 2", x.carpet(2, 0) * 100 + x.carpet(2, 1), 200);
     }
 
     /** carpet: "what 0 the YARD, 1 how much is lost; -2: all have one; NONE: no such ones (n 1 to 20)." */

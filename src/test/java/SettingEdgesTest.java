@@ -10,6 +10,7 @@ public final class SettingEdgesTest {
 
     public static void main(String[] args) {
         newObject();
+        twoObjects();
         yardNumbers();
         yardDust();
         yardWind();
@@ -45,6 +46,20 @@ public final class SettingEdgesTest {
         Due.is("new: without a law nothing is lost", x.hours(2), 0);
         Due.is("new: nothing is moved, washed or sieved", x.count(7) * 1000 + x.count(6) + x.count(5) + x.count(10), 100000);
         Due.is("new: what is carried arrives", x.count(4), 100);
+    }
+
+    /** "All memory is the hill's own": what is told to one object is not seen by another. */
+    private static void twoObjects() {
+        DustMint first = new DustMint();
+        DustMint other = new DustMint();
+        DustMint full = RIG.made();
+        full.keep();
+        other.feed(1, 2, 3, 4, 5);
+        Rig.same("beside others", Rig.seen(first), Rig.seen(new DustMint()));
+        Due.is("beside others, nothing kept", first.undo(), false);
+        Due.is("beside others, no tape", first.check(1), -2);
+        Due.is("beside others, the tape", other.count(2), 20);
+        Rig.same("beside others, the full one", Rig.seen(full), Rig.seen(RIG.made()));
     }
 
     /** "YARDS 0 to 19"; yard: "true; false: no such ones". */

@@ -191,6 +191,23 @@ public final class TapeEdgesTest {
             Due.feed(x, grains);
             Due.is("grains " + grains + ", sneeze", x.shook(4, 1, 1), many == 0 ? -2 : grains == 99 ? 2 : 0);
         }
+        // By limp, not by sneeze: (0, 2) is ahead of (2, 0), (2, 1), (2, 3) ..
+        x = Due.mint("li*2+z*4(1=1)");
+        x.porter(4, 3, 9999, 7, 7);
+        Due.feed(x, 4);
+        Due.is("of both kinds", x.shook(4, 1, NONE), 10);
+        Due.feed(x, 4);
+        Due.is("the least limp", x.shook(4, 1, 0), 0);
+        Due.feed(x, 4);
+        Due.is("and its sneeze", x.shook(4, 1, 1), 2);
+        // What it loses hangs on dust that the wind brings to where it stands.
+        x = Due.mint("l4(d>0);m9(1=1)");
+        x.yard(18, 9, 1, false);
+        x.porter(0, 19, 10, 1, 0);
+        Due.feed(x, 0, 4);
+        Due.is("all that limp", x.shook(0, 2, NONE), 90);
+        Due.feed(x, 0, 4);
+        Due.is("the first that limps", x.shook(0, 2, 0) * 10 + Rig.bit(x.count(2) == 0), 11);
         // The greatest of both: limp 9 and sneeze 9 alone fit, if a draw of 9 comes first.
         x = Due.mint("li+z*50(1=1)");
         x.porter(4, 3, 9999, 0, 0);
